@@ -54,6 +54,13 @@ public final class AheadTest {
         c.due("over(-1)", x.over(-1), Checker.BEYOND);
         x.years(2);
         c.due("over of a gone one", x.over(0), Checker.STATE);
+        GlacierStreets w = new GlacierStreets();
+        w.warm(1 << 1 | 1 << 4);
+        w.house(3, 4, 1950);
+        w.years(3);
+        c.due("a church at 1972 from year 3 on: 13, 0, 13, 0, 13", w.over(0), 5);
+        w.haul(0, 1);
+        c.due("a foot less", w.over(0), 5);
         Checker.pass(x, 797);
         c.due("now(0)", x.now(0), 799);
         c.due("over(3) in 799", x.over(3), Checker.NONE);
@@ -74,6 +81,14 @@ public final class AheadTest {
         c.due("cost(1) with a church", x.cost(1), 1);
         c.due("cost(2) with a church", x.cost(2), 18 + 19 + 13);
         c.due("nothing changes", x.of(1, 2), 1982);
+        GlacierStreets w = new GlacierStreets();
+        w.warm(1 << 4);
+        w.house(3, 4, 1900);
+        w.years(3);
+        w.house(0, 4, 1999);
+        w.haul(0, 13);
+        c.due("cost(1) in 3", w.cost(1), 18);
+        c.due("cost(3) in 3: 18, 27, 18", w.cost(3), 63);
         c.due("cost(0)", x.cost(0), Checker.BEYOND);
         c.due("cost(61)", x.cost(61), Checker.BEYOND);
         x.years(2);
@@ -104,6 +119,12 @@ public final class AheadTest {
         Checker.pass(x, 940);
         c.due("safe(0, 0, 59) in 940", x.safe(0, 0, 59), 539 - 118);
         c.due("safe(0, 4, 60) in 940", x.safe(0, 4, 60), Checker.STATE);
+        GlacierStreets w = new GlacierStreets();
+        w.warm(1 << 4);
+        w.years(3);
+        c.due("safe(0, 4, 3) in 3", w.safe(0, 4, 3), 1999 - 18 - 27 - 18);
+        c.due("safe(3, 4, 3) in 3", w.safe(3, 4, 3), 1999 - 13 - 13);
+        c.due("safe(3, 4, 1) in 3", w.safe(3, 4, 1), 1999 - 13);
         c.due("a house finds its safe place", x.house(0, 4, x.safe(0, 4, 10)), 0);
         c.due("over", x.ahead(0, 10), 539);
     }

@@ -26,8 +26,10 @@ public final class SheetsTest {
         c.due("sheet(3, 16, 0)", x.sheet(3, 16, 0), 0);
         c.due("an empty one isn't missing", x.lays(3), 0);
         c.due("sheet(3, 64, 2)", x.sheet(3, 64, 2), 2);
+        x.write(3, 0, 4);
         x.write(3, 1, 5);
         c.due("sheet(3, 64, 3)", x.sheet(3, 64, 3), 3);
+        c.due("all are 0 then", x.write(3, 0, 0), 0);
         c.due("all are 0 then", x.write(3, 1, 0), 0);
         c.due("sheet(3, 0, 40)", x.sheet(3, 0, 40), 0);
         c.due("it is missing", x.write(3, 0, 0), Checker.MISSING);

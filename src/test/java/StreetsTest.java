@@ -52,6 +52,12 @@ public final class StreetsTest {
         c.due("till(6, 0)", x.till(6, 0), Checker.BEYOND);
         x.years(1);
         c.due("till with a gone one", x.till(4, 1), 0);
+        GlacierStreets w = new GlacierStreets();
+        w.warm(1 << 4);
+        w.years(3);
+        w.house(0, 3, 100);
+        w.house(0, 4, 120);
+        c.due("apart by 24 in 4, by 30 in 5, by 34 in 6", w.till(0, 1), 3);
         GlacierStreets y = new GlacierStreets();
         y.pace(0, 10);
         y.house(0, 0, 0);
@@ -120,6 +126,13 @@ public final class StreetsTest {
         c.due("when of two", x.when(3), 0);
         c.due("when of one", x.when(1), Checker.BEYOND);
         c.due("when of one that isn't there", x.when(9), Checker.BEYOND);
+        GlacierStreets w = new GlacierStreets();
+        w.warm(1 << 4);
+        w.years(3);
+        w.house(0, 3, 115);
+        w.house(0, 4, 100);
+        w.house(0, 5, 118);
+        c.due("-15 and 18, -11 and 14, -5 and 8, -1 and 4", w.when(7), 3);
         x.edge(1000);
         x.years(50);
         x.years(50);

@@ -7,6 +7,7 @@ public final class TextTest {
         wipe();
         goodTowns();
         faults();
+        textsThatBreakOff();
         fullTowns();
         nothingChanges();
         c.end();
@@ -70,6 +71,11 @@ public final class TextTest {
         c.due("stake", Checker.town(x, "stake 3 from 999 for 60 went 9999;stake 4 from 6 for 1 went 45"), 2);
         c.due("learnt(3)", x.learnt(3, 2), 0);
         c.due("learnt(4)", x.learnt(4, 0), 30);
+        c.due("warm 6", Checker.town(x, "warm 6"), 1);
+        c.due("now(2)", x.now(2), 64);
+        c.due("the top, and nothing gone", Checker.town(x, "deep 0 at 0;stake 7 from 0 for 1 went 0"), 2);
+        c.due("of(7, 2)", x.of(7, 2), 0);
+        c.due("learnt(7)", x.learnt(7, 1), 0);
         c.due("an item twice", Checker.town(x, "warm 1;warm 2"), 2);
         c.due("now(2)", x.now(2), 4);
         GlacierStreets y = new GlacierStreets();
@@ -99,6 +105,13 @@ public final class TextTest {
         fault("at 7", 0);
         fault("houses 4 at 7", 0);
         fault("hous 4 at 7", 0);
+        fault("mouse 4 at 7", 0);
+        fault("housez 4 at 7", 0);
+        fault("house`4 at 7", 5);
+        fault("house{4 at 7", 5);
+        fault("house/4 at 7", 5);
+        fault("house:4 at 7", 5);
+        fault("warmedge 100", 0);
         fault("House 4 at 7", 0);
         fault("\thouse 4 at 7", 0);
         fault("warm 1\n", 6);
@@ -145,6 +158,23 @@ public final class TextTest {
         fault("stake 8 from 999 for 60 at 0", 24);
         fault("stake 8 from 999 for 60 went 10000", 29);
         fault("stake 8 from 999 for 60 went", 28);
+    }
+
+    /** Ahead of each token but the first: no text ends there, no item does, and no strange byte stands there. */
+    private static void textsThatBreakOff() {
+        String[] texts = {"edge 300", "pace 3 7", "warm 3", "deep 3 at 7", "stake 3 from 1 for 2 went 3"};
+        for (String text : texts) {
+            for (int at = text.indexOf(' '); at >= 0; at = text.indexOf(' ', at + 1)) {
+                String begun = text.substring(0, at);
+                fault(begun, at);
+                fault(begun + " ", at + 1);
+                fault(begun + ";" + text, at);
+                fault(begun + " ?" + text.substring(at), at + 1);
+                fault(begun + " edge" + text.substring(at), at + 1);
+                fault(begun + " 10000" + text.substring(at), at + 1);
+            }
+        }
+        fault("deep 3 at 7 hold;warm 1", 16);
     }
 
     private static void fullTowns() {
