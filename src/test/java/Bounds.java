@@ -107,6 +107,16 @@ final class Bounds {
         same("'" + text + "'", asked, calm);
     }
 
+    /** Two towns, built each in its way, that nothing tells from one another. */
+    void alike(String what, Town one, Town other) {
+        GlacierStreets x = built(one);
+        GlacierStreets y = built(other);
+        for (int which = -1; which < FINDINGS; which++) {
+            c.due(promise + what + ", then status(" + which + ")", x.status(which), y.status(which));
+        }
+        same(what, x, y);
+    }
+
     void end() {
         c.end();
     }
