@@ -37,6 +37,9 @@ public final class AheadBoundsTest {
         b.takes("no farther", Towns.one(4, 1983), x -> x.ahead(0, 2), 2000);
         Bounds.Town moved = Towns.with(Towns::rich, x -> x.edge(9999));
         b.takes("a GONE one stays where EDGE was", moved, x -> x.ahead(6, 200), 2000);
+        b.takes("18, then 27, then 18", Towns.inSpring(Towns.one(4, 0)), x -> x.ahead(0, 3), 63);
+        b.takes("18, then 27", Towns.inSpring(Towns.one(4, 0)), x -> x.ahead(0, 2), 45);
+        b.takes("the first from YEAR 3 on", Towns.inSpring(Towns.one(4, 0)), x -> x.ahead(0, 1), 18);
     }
 
     /** A house in lane 0, which goes ten feet a year. */
@@ -58,6 +61,10 @@ public final class AheadBoundsTest {
         b.refuses("a FOOT short in 200", tenAYear(0, 2001), x -> x.over(0), Checker.NONE);
         b.takes("that FOOT on", tenAYear(1, 2001), x -> x.over(0), 200);
         b.refuses("never", Towns.still(0), x -> x.over(0), Checker.NONE);
+        int[][] spring = {{1982, 1}, {1981, 2}, {1955, 2}, {1954, 3}, {1937, 3}, {1936, 4}};
+        for (int[] s : spring) {
+            b.takes("18, 27, 18, 18 from " + s[0], Towns.inSpring(Towns.one(4, s[0])), x -> x.over(0), s[1]);
+        }
     }
 
     private static void overInLateYears() {
@@ -95,6 +102,12 @@ public final class AheadBoundsTest {
         b.takes("all of a STEP in the second YEAR", Towns.one(4, 1981), x -> x.cost(2), 18);
         Bounds.Town gone = Towns.with(Towns.one(4, 1982), x -> x.years(1));
         b.takes("a GONE one costs nothing", gone, x -> x.cost(60), 0);
+        int[] spring = {18, 45, 63};
+        for (int n = 1; n <= 3; n++) {
+            int years = n;
+            b.takes("18, 27, 18", Towns.inSpring(Towns.one(4, 1999)), x -> x.cost(years), spring[n - 1]);
+        }
+        b.takes("in a full town", Towns::full, x -> x.cost(1), 0);
         Bounds.Town church = x -> x.house(3, 4, 1999);
         b.takes("a CHURCH in an even YEAR", church, x -> x.cost(1), 0);
         b.takes("a CHURCH in an odd one too", church, x -> x.cost(2), 13);
@@ -117,6 +130,11 @@ public final class AheadBoundsTest {
         b.within("safe(0, 0, n)", Towns::none, (x, v) -> x.safe(0, 0, v), 1, 1997, 60, 1879);
         b.takes("HOLD is 5", Towns::rich, x -> x.safe(1, 4, 1), 1999 - 22);
         b.takes("though there are twelve", Towns.houses(12), x -> x.safe(0, 4, 1), 1981);
+        int[] spring = {1981, 1954, 1936};
+        for (int n = 1; n <= 3; n++) {
+            int years = n;
+            b.takes("18, 27, 18", Towns.inSpring(Towns::none), x -> x.safe(0, 4, years), spring[n - 1]);
+        }
         b.takes("to 999 from 939", Towns.still(939), x -> x.safe(0, 0, 60), 1999);
         b.refuses("to 1000 from 940", Towns.still(940), x -> x.safe(0, 0, 60), Checker.STATE);
         b.takes("to 999 from 940", Towns.still(940), x -> x.safe(0, 0, 59), 1999);

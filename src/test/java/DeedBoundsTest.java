@@ -117,6 +117,7 @@ public final class DeedBoundsTest {
             Bounds.Town falling = Towns.with(deeds(140, n[0] - 140), Towns.one(4, 100));
             b.takes("140 or 100, nearest to " + n[0], falling, x -> x.whose(0), n[2]);
         }
+        b.takes("in a full town", Towns::full, x -> x.whose(9), 11);
         b.takes("of several the least", Towns.with(deeds(50, 0), Towns.one(4, 50)), x -> x.whose(0), 0);
         b.takes("of several below 0", Towns.with(deeds(50, -999), Towns.one(4, 49)), x -> x.whose(0), 1);
         Bounds.Town hauled = Towns.with(deeds(1500, 999), x -> {
@@ -259,5 +260,9 @@ public final class DeedBoundsTest {
             x.warm(1);
         };
         b.takes("half of 4 is 2", warm, x -> x.lost(0, 1998), 1);
+        int[][] spring = {{1991, 1}, {1990, 2}, {1978, 2}, {1977, 3}, {1969, 3}, {1968, 4}};
+        for (int[] s : spring) {
+            b.takes("9, 13, 9, 9 from " + s[0], Towns.inSpring(Towns::none), x -> x.lost(4, s[0]), s[1]);
+        }
     }
 }

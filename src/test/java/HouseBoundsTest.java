@@ -204,6 +204,12 @@ public final class HouseBoundsTest {
         b.then("YEAR is 1 more", Towns::rich, x -> x.years(1), x -> x.now(0), 4);
         b.then("YEAR is 50 more", Towns.still(3), x -> x.years(50), x -> x.now(0), 53);
         b.takes("how many are GONE by them, not ever", Towns::rich, x -> x.years(1), 0);
+        b.takes("one in each of two", Towns.two(4, 1982, 4, 1981), x -> x.years(2), 2);
+        b.takes("one in the first of two", Towns.two(4, 1982, 4, 0), x -> x.years(2), 1);
+        b.takes("one in the second of two", Towns.two(4, 1981, 4, 0), x -> x.years(2), 1);
+        // house 11, of which the deeds are, is in lane 2, which goes 10
+        b.takes("in a full town", Towns::full, x -> x.years(1), 0);
+        b.then("DEEDS of a full town go on", Towns::full, x -> x.years(1), x -> x.deedOf(9, 1), 110 + 90 + 10);
         b.takes("all twelve in one", x -> {
             for (int h = 0; h < 12; h++) {
                 x.house(0, 4, 1999 - h);

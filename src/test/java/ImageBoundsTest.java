@@ -77,6 +77,34 @@ public final class ImageBoundsTest {
             x.undo();
         });
         b.takes("one that was GONE goes again", fallen, x -> x.years(1), 1);
+        Bounds.Town emptied = x -> {
+            x.image();
+            x.house(0, 4, 1999);
+            x.undo();
+        };
+        b.takes("one that isn't there any more doesn't go", emptied, x -> x.years(1), 0);
+        b.refuses("nor is there one of its number", emptied, x -> x.of(0, 0), Checker.BEYOND);
+        Bounds.Town ruin = x -> {
+            x.image();
+            x.house(0, 4, 1999);
+            x.hold(0, 99);
+            x.years(1);
+            x.undo();
+        };
+        b.then("a new one of its number isn't GONE", ruin, x -> x.house(1, 3, 7), x -> x.of(0, 4), 0);
+        b.then("a new one of its number has HOLD 5", ruin, x -> x.house(1, 3, 7), x -> x.of(0, 3), 5);
+        Bounds.Town alone = Towns.with(Towns.one(4, 100), x -> {
+            x.deed(0, 50);
+            x.image();
+            x.house(0, 4, 150);
+            x.undo();
+        });
+        b.takes("a DEED is no one's that isn't there", alone, x -> x.whose(0), 0);
+        b.takes("nor is it beside one", alone, x -> x.beside(0), 0);
+        b.alike("a full town", Towns.with(Towns::full, x -> {
+            x.years(50);
+            x.undo();
+        }), Towns::full);
     }
 
     /** The tape, the sheets and what status() counts are no part of an image. */

@@ -53,7 +53,11 @@ public final class SheetBoundsTest {
             b.refuses(what + " far below", Towns::rich, x -> x.sheet(0, bits, Integer.MIN_VALUE), Checker.SIZE);
             b.beyond(what, Towns::rich, (x, v) -> x.sheet(0, bits, v), 41, Integer.MAX_VALUE);
         }
-        b.then("all are 0", Towns::rich, x -> x.sheet(1, 16, 5), x -> x.write(1, 2, 9), 0);
+        for (int i = 0; i < 3; i++) {
+            int k = i;
+            b.then("number " + i + " is 0", Towns::rich, x -> x.sheet(1, 16, 5), x -> x.write(1, k, 9), 0);
+            b.then("number " + i + " is 0, other bits", Towns::rich, x -> x.sheet(1, 8, 3), x -> x.write(1, k, 9), 0);
+        }
         b.then("what was is 0 when it grows again", Towns::rich, x -> {
             x.sheet(1, 16, 1);
             x.sheet(1, 16, 5);
@@ -249,6 +253,8 @@ public final class SheetBoundsTest {
         b.then("GONE by then", edge, x -> x.map(0, 2), x -> x.write(0, 0, 0), 2000);
         b.then("the HOUSE stays", edge, x -> x.map(0, 2), x -> x.of(0, 2), 1981);
         b.then("GONE now", Towns.still(1), x -> x.map(0, 200), x -> x.write(0, 2, 0), 2000);
+        Bounds.Town spring = Towns.with(Towns.inSpring(Towns.one(4, 0)), row(16, 0));
+        b.then("18, then 27", spring, x -> x.map(0, 2), x -> x.write(0, 0, 0), 45);
     }
 
     private static void read() {

@@ -104,6 +104,12 @@ public final class StreetBoundsTest {
         b.takes("both GONE in 200", pair, x -> x.till(0, 1), 200);
         b.takes("both GONE in 201", Towns.with(pair, x -> x.edge(2001)), x -> x.till(0, 1), 201);
         b.takes("BESIDE for ever", Towns.still(0), x -> x.till(0, 1), 201);
+        // lane 4 goes 4 more than lane 3, and 6 more in the second year
+        int[][] spring = {{27, 1}, {26, 2}, {21, 2}, {20, 3}, {17, 3}, {16, 4}};
+        for (int[] s : spring) {
+            Bounds.Town town = Towns.inSpring(Towns.two(3, 100, 4, 100 + s[0]));
+            b.takes("4, 6, 4, 4 from " + s[0], town, x -> x.till(0, 1), s[1]);
+        }
     }
 
     private static void straightSets() {
@@ -181,6 +187,12 @@ public final class StreetBoundsTest {
         b.takes("20, 23, 17, 20", at(3, 100, 3, 103, 4, 120, 4, 123), x -> x.straight(15, 0), 0);
         b.takes("the bend comes with the YEARS, 24 and 16", at(3, 100, 4, 120, 5, 140), x -> x.straight(7, 1), 0);
         b.takes("and goes with them, 24 and 20", at(3, 100, 4, 120, 5, 144), x -> x.straight(7, 1), 1);
+        // by 4 and 6 in two years: -5 and 0, but -7 and 2 by 4 and 4
+        Bounds.Town spring = Towns.inSpring(at(3, 115, 4, 100, 5, 110));
+        b.takes("in a warm YEAR ahead, -5 and 0", spring, x -> x.straight(7, 2), 1);
+        b.takes("ahead of it, -11 and 6", spring, x -> x.straight(7, 1), 0);
+        Bounds.Town others = at(0, 0, 1, 100, 4, 0, 5, 50);
+        b.then("what was asked ahead is forgotten", others, x -> x.straight(3, 0), x -> x.straight(14, 0), 1);
     }
 
     private static void straightAndGone() {
@@ -231,6 +243,9 @@ public final class StreetBoundsTest {
         b.takes("a FOOT ahead of EDGE then", near, x -> x.when(7), 1);
         Bounds.Town over = Towns.with(straightening(103), x -> x.edge(104));
         b.refuses("GONE just then", over, x -> x.when(7), Checker.NONE);
+        b.takes("-11 and 6, then -5 and 0", Towns.inSpring(at(3, 115, 4, 100, 5, 110)), x -> x.when(7), 2);
+        b.takes("-15 and 14, -11 and 10, -5 and 4, -1 and 0", Towns.inSpring(at(3, 115, 4, 100, 5, 114)),
+            x -> x.when(7), 3);
     }
 
     private static void lay() {
@@ -265,6 +280,12 @@ public final class StreetBoundsTest {
         b.refuses("GONE by then", Towns.one(4, 1982), x -> x.lay(0, 0, 1), Checker.STATE);
         b.refuses("GONE in the second", Towns.one(4, 1981), x -> x.lay(0, 0, 2), Checker.STATE);
         b.refuses("GONE now", Towns::rich, x -> x.lay(6, 0, 0), Checker.STATE);
+        int[] spring = {16, 40, 56};
+        for (int n = 1; n <= 3; n++) {
+            int years = n;
+            b.takes("18 less 2, 27 less 3, 18 less 2", Towns.inSpring(Towns.one(4, 0)), x -> x.lay(0, 0, years),
+                spring[n - 1]);
+        }
         b.beyond("ahead of GONE, lane", Towns::rich, (x, v) -> x.lay(6, v, 0), -1, 9);
         b.beyond("ahead of GONE, n", Towns::rich, (x, v) -> x.lay(6, 0, v), -1, 61);
     }

@@ -127,6 +127,17 @@ public final class TextBoundsTest {
         b.fault("zwarm 1", Towns::rich, 0);
         b.fault("warmz 1", Towns::rich, 0);
         b.fault("wa rm 1", Towns::rich, 0);
+        for (String text : new String[] {"edge 2000", "pace 0 0", "warm 1", "stake 0 from 0 for 1 went 0"}) {
+            for (int i = 0; i < text.indexOf(' '); i++) {
+                b.fault(text.substring(0, i) + "x" + text.substring(i + 1), Towns::rich, 0);
+            }
+        }
+        b.fault("deep 0 xt 0", Towns::rich, 7);
+        b.fault("deep 0 ax 0", Towns::rich, 7);
+        b.fault("deep 0 at 0 xold 5", Towns::rich, 12);
+        b.fault("stake 0 xrom 0 for 1 went 0", Towns::rich, 8);
+        b.fault("stake 0 from 0 xor 1 went 0", Towns::rich, 15);
+        b.fault("stake 0 from 0 for 1 xent 0", Towns::rich, 21);
         b.fault("warm 1 warm 2", Towns::rich, 7);
         b.fault("1", Towns::rich, 0);
         b.fault("at", Towns::rich, 0);
@@ -262,6 +273,9 @@ public final class TextBoundsTest {
             b.fault(name + " 8 at hold", Towns::rich, n + 6);
             b.fault(name + " 8 at 7 8", Towns::rich, n + 8);
             b.fault(name + " 8 at 7 at", Towns::rich, n + 8);
+            for (int i = 0; i < n; i++) {
+                b.fault(name.substring(0, i) + "x" + name.substring(i + 1) + " 8 at 7", Towns::rich, 0);
+            }
             b.fault(name.substring(1) + " 8 at 7", Towns::rich, 0);
             b.fault(name.substring(0, n - 1) + " 8 at 7", Towns::rich, 0);
         }

@@ -82,6 +82,32 @@ final class Towns {
         };
     }
 
+    /** All that there is room for: twelve houses, ten deeds, ten stakes, four sheets, a tape, and an image of it. */
+    static void full(GlacierStreets x) {
+        for (int h = 0; h < 12; h++) {
+            x.house(h % 6, h % 9, 10 * h);
+        }
+        for (int i = 0; i < 10; i++) {
+            x.deed(11, 10 * i);
+            x.stake(8, 0, 1, 2);
+        }
+        // one sheet alone is full, that all can be seen of it in 512 calls
+        for (int s = 0; s < 4; s++) {
+            x.sheet(s, 16, s == 0 ? 40 : s);
+        }
+        Checker.feed(x, " ".repeat(120));
+        x.image();
+    }
+
+    /** In year 3, with the next one warm, so that AHEAD is told from back. */
+    static Bounds.Town inSpring(Bounds.Town town) {
+        return x -> {
+            x.warm(1 << 4);
+            x.years(3);
+            town.build(x);
+        };
+    }
+
     /** What is built, and then an act more. */
     static Bounds.Town with(Bounds.Town town, Bounds.Town more) {
         return x -> {
