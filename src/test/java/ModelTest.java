@@ -1,7 +1,5 @@
-import java.lang.reflect.Method;
 import java.util.ArrayList;
 import java.util.Arrays;
-import java.util.HashMap;
 import java.util.List;
 import java.util.Map;
 import java.util.Random;
@@ -24,16 +22,12 @@ public final class ModelTest {
     };
 
     private final Random random;
-    private final Map<String, Method> methods = new HashMap<>();
     private final List<String[]> face = new ArrayList<>();
     private final Map<String, Integer> rare = new TreeMap<>();
     private int wrong;
 
     private ModelTest(long seed) {
         random = new Random(seed);
-        for (Method m : GlacierStreets.class.getMethods()) {
-            methods.put(m.getName(), m);
-        }
         for (String call : FACE.split(";")) {
             face.add(call.split(" "));
         }
@@ -90,7 +84,7 @@ public final class ModelTest {
                 args[k] = argument(call[k + 1]);
             }
             long due = plain.answer(call[0], args);
-            long got = ask(x, call[0], args);
+            long got = Asker.ask(x, call[0], args);
             told.append(call[0]).append(Arrays.toString(args)).append(" = ").append(due).append('\n');
             note(call[0], due);
             if (got != due) {
@@ -106,19 +100,6 @@ public final class ModelTest {
         int which = (int) (-1000000001 - due);
         boolean finding = due <= -1000000001 && due >= -1000000007 && !name.equals("write") || which == 5;
         rare.merge(name + " " + (finding ? names[which] : "well"), 1, Integer::sum);
-    }
-
-    private long ask(GlacierStreets x, String name, long[] args) throws Exception {
-        Method m = methods.get(name);
-        Object[] given = new Object[args.length];
-        for (int k = 0; k < args.length; k++) {
-            if (m.getParameterTypes()[k] == long.class) {
-                given[k] = args[k];
-            } else {
-                given[k] = (int) args[k];
-            }
-        }
-        return ((Number) m.invoke(x, given)).longValue();
     }
 
     /** Some houses, deeds and sheets ahead of all else, or most calls would have none to speak of. */
